@@ -308,11 +308,9 @@ public final class FogSchool {
     // ---- told learning
 
     public int fits(int s, int child) {
-        if (!isSheet(s)) {
-            return finding(BEYOND);
-        }
-        if (sheets[s].isMissing()) {
-            return finding(MISSING);
+        int trouble = findingOfSheet(s);
+        if (trouble != 0) {
+            return trouble;
         }
         if (!isChild(child)) {
             return finding(BEYOND);
@@ -329,11 +327,9 @@ public final class FogSchool {
     }
 
     public int kinds(int s, int keeper) {
-        if (!isSheet(s)) {
-            return finding(BEYOND);
-        }
-        if (sheets[s].isMissing()) {
-            return finding(MISSING);
+        int trouble = findingOfSheet(s);
+        if (trouble != 0) {
+            return trouble;
         }
         if (!isKeeper(keeper)) {
             return finding(BEYOND);
@@ -458,11 +454,9 @@ public final class FogSchool {
     }
 
     public int write(int s, int i, int v) {
-        if (!isSheet(s)) {
-            return finding(BEYOND);
-        }
-        if (sheets[s].isMissing()) {
-            return finding(MISSING);
+        int trouble = findingOfSheet(s);
+        if (trouble != 0) {
+            return trouble;
         }
         if (!isUpTo(i, sheets[s].size - 1)) {
             return finding(BEYOND);
@@ -489,11 +483,9 @@ public final class FogSchool {
     }
 
     public int load(int s) {
-        if (!isSheet(s)) {
-            return finding(BEYOND);
-        }
-        if (sheets[s].isMissing()) {
-            return finding(MISSING);
+        int trouble = findingOfSheet(s);
+        if (trouble != 0) {
+            return trouble;
         }
         int came = 0;
         while (came < PLACES && came < sheets[s].size && isUpTo(sheets[s].numbers[came], LAST_FOG)) {
@@ -504,11 +496,9 @@ public final class FogSchool {
     }
 
     public int judge(int s) {
-        if (!isSheet(s)) {
-            return finding(BEYOND);
-        }
-        if (sheets[s].isMissing()) {
-            return finding(MISSING);
+        int trouble = findingOfSheet(s);
+        if (trouble != 0) {
+            return trouble;
         }
         for (int i = 0; i < sheets[s].size; i++) {
             if (!isChild(i) || coast.children[i].row[Child.LEARNT] != sheets[s].numbers[i]) {
@@ -589,6 +579,14 @@ public final class FogSchool {
 
     private static boolean isSheet(int s) {
         return s >= 0 && s < SHEETS;
+    }
+
+    /** The finding of a call that needs a sheet's numbers, or 0 if it has them. */
+    private int findingOfSheet(int s) {
+        if (!isSheet(s)) {
+            return finding(BEYOND);
+        }
+        return sheets[s].isMissing() ? finding(MISSING) : 0;
     }
 
     /** Children don't touch one another: one alone learns as it does among all. */

@@ -153,9 +153,10 @@ public final class AutumnTest {
             "child silent", "child quick 10", "child knows 4096", "child knows 40950", "child knows 9999", "child knows 10000",
             "child knows 1 quick 1", "fog", "fog 6 1", "fog 5", "fog 5 10", "fog 5 9 1", "fog at 1", ";", ";hum", "hum;;hum",
             "12", "hum at -1", "hum\t", "\u00ff", "hum\u00e1", "hum at 99999999999999999999", "humat 1", "hum at1x", "fog 51",
-            "hum;fog 0 4;child at 16", "at 1"};
+            "hum;fog 0 4;child at 16", "at 1", "humz", "hum zat 1", "xum", "hun", "hu", "hums", "hum xt 1", "`hum", "{hum",
+            "hum at 1/", "hum at 1:"};
         int[] faults = {0, 3, 0, 0, 4, 5, 4, 4, 6, 7, 7, 10, 9, 11, 9, 11, 11, 6, 12, 12, 12, 12, 12, 14, 3, 4, 5, 6, 8, 4, 0, 0,
-            4, 0, 7, 3, 0, 3, 7, 0, 7, 4, 21, 0};
+            4, 0, 7, 3, 0, 3, 7, 0, 7, 4, 21, 0, 0, 4, 0, 0, 0, 0, 4, 0, 0, 8, 8};
         DUE.is("30: as many faults as texts", faults.length, texts.length);
         FogSchool x = new FogSchool();
         for (int i = 0; i < texts.length; i++) {

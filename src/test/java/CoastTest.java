@@ -14,6 +14,7 @@ public final class CoastTest {
         hears();
         goTeaches();
         goInOrder();
+        goWithMost();
         goTiresAndTurns();
         goWrong();
         now();
@@ -241,6 +242,33 @@ public final class CoastTest {
         DUE.is("11: the other missed", y.ofChild(0, 3), 2);
     }
 
+    /** All that there may be, and nothing of those that an undo took away. */
+    private static void goWithMost() {
+        FogSchool x = Due.inFog(2);
+        x.image();
+        for (int k = 0; k < 8; k++) {
+            x.keeper(0, 0);
+            x.change(k, 2, k);
+            x.change(k, 4, 9);
+        }
+        for (int c = 0; c < 6; c++) {
+            x.child(c, 3);
+        }
+        DUE.is("10: all heard", x.hears(5, 2), 255);
+        DUE.is("11: eight notes each", x.go(1), 48);
+        DUE.is("11: the rest", x.go(4), 72);
+        DUE.is("12: all know all", x.now(6), 63);
+        DUE.is("12: tired", x.now(5), 8 * 19);
+        DUE.is("22: nobody has more to learn", x.hush(20), 0);
+        x.undo();
+        for (int what = 0; what < 7; what++) {
+            DUE.is("12: undone " + what, x.now(what), 0);
+        }
+        x.child(0, 3);
+        DUE.is("10: nobody heard", x.hears(0, 1), 0);
+        DUE.is("11: nobody teaches", x.go(1), 0);
+    }
+
     private static void goTiresAndTurns() {
         FogSchool x = new FogSchool();
         x.fog(0, 9);
@@ -289,10 +317,13 @@ public final class CoastTest {
         DUE.is("11: day 99960", x.now(0), 99960);
         DUE.is("11: state", x.go(40), Due.STATE);
         DUE.is("11: beyond ahead of state", x.go(61), Due.BEYOND);
+        x.image();
+        DUE.is("11: to the last day", x.go(39), 0);
+        DUE.is("11: last day", x.count(0), 99999);
+        x.undo();
         DUE.is("25: in state", x.autumn(20), 0);
         DUE.is("25: state", x.autumn(20), Due.STATE);
-        DUE.is("11: to the last day", x.go(19), 0);
-        DUE.is("11: last day", x.count(0), 99999);
+        DUE.is("25: to the last day", x.autumn(19), 0);
         DUE.is("11: behind it", x.go(1), Due.STATE);
         for (int i = 0; i < 6; i++) {
             x.fog(i, 0);

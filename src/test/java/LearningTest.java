@@ -95,6 +95,13 @@ public final class LearningTest {
         y.change(0, 2, 0);
         DUE.is("15: behind 206 days", y.learns(0, 3), Due.NONE);
         DUE.is("16: behind 206 days", y.taught(3), Due.NONE);
+        FogSchool z = new FogSchool();
+        z.go(5);
+        z.fog(1, 1);
+        Due.read(z, "poet note 5;child quick 9");
+        DUE.is("15: behind 135 days", z.learns(0, 2), 6 * 22 + 3);
+        DUE.is("15: behind 201 days", z.learns(0, 3), Due.NONE);
+        DUE.is("16: behind 201 days", z.taught(3), Due.NONE);
     }
 
     private static void weary() {
@@ -114,14 +121,12 @@ public final class LearningTest {
         x.change(0, 5, 1);
         DUE.is("17: a silent one never", x.weary(0, 1), Due.NONE);
         DUE.is("17: nothing changes", x.now(0), 0);
-        // A head tires by 1 a day and rests by 3 on the third of six: 68 more for the first time behind 200 days.
-        x.fog(2, 0);
-        x.change(2, 4, 32);
-        DUE.is("17: behind 199 days", x.weary(2, 99), 199);
+        // A head tires by 1 a day and rests by 3 on the fourth of six: 68 more behind 200 days, 69 behind 201.
+        x.fog(3, 0);
         x.change(2, 4, 31);
         DUE.is("17: behind 200 days", x.weary(2, 99), 200);
         x.change(2, 4, 30);
-        DUE.is("17: behind more than 200 days", x.weary(2, 99), Due.NONE);
+        DUE.is("17: behind 201 days", x.weary(2, 99), Due.NONE);
     }
 
     private static void seatFor() {
