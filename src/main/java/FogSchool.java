@@ -1133,33 +1133,37 @@ public final class FogSchool {
         }
 
         boolean readFog(Coast draft) {
-            int place = readNumber(PLACES - 1);
+            step();
+            int place = numberUpTo(PLACES - 1);
             if (place < 0) {
                 return false;
             }
-            // The reader stands behind the first number already, so the second is its token.
-            if (token != NUMBER || number > LAST_FOG) {
+            step();
+            int thick = numberUpTo(LAST_FOG);
+            if (thick < 0) {
                 return false;
             }
-            draft.list[place] = number;
             step();
+            draft.list[place] = thick;
             return true;
         }
 
         /** The number behind the word, what holds without the word, or -1 at a fault. */
         int readOption(String word, int top, int without) {
-            return isAt(word) ? readNumber(top) : without;
+            if (!isAt(word)) {
+                return without;
+            }
+            step();
+            int read = numberUpTo(top);
+            if (read >= 0) {
+                step();
+            }
+            return read;
         }
 
-        /** The number behind this token, or -1 if it isn't one up to the top. */
-        int readNumber(int top) {
-            step();
-            if (token != NUMBER || number > top) {
-                return -1;
-            }
-            int read = number;
-            step();
-            return read;
+        /** The number at which the reader stands, or -1 if it isn't one up to the top. */
+        int numberUpTo(int top) {
+            return token == NUMBER && number <= top ? number : -1;
         }
 
         boolean isAt(String word) {

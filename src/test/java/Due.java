@@ -1,3 +1,5 @@
+import java.util.function.Supplier;
+
 /** Tells every answer that is not the one that is due, and how many were looked at. */
 final class Due {
     static final int BEYOND = -1000001;
@@ -28,6 +30,26 @@ final class Due {
         is(what, isSo ? 1 : 0, 1);
     }
 
+    /** A call of which one number is chosen. */
+    interface Call {
+        long on(FogSchool x, int v);
+    }
+
+    /** The call is answered at both ends of its range, and BEYOND next to them and as far off as can be. */
+    void range(String what, Supplier<FogSchool> made, int low, int top, Call call) {
+        for (int v : new int[] {low, top}) {
+            FogSchool x = made.get();
+            int findings = x.status(0);
+            holds(what + " " + v + " is not BEYOND", call.on(x, v) != BEYOND && x.status(0) == findings);
+        }
+        for (int v : new int[] {low - 1, top + 1, Integer.MIN_VALUE, Integer.MAX_VALUE}) {
+            FogSchool x = made.get();
+            int findings = x.status(0);
+            is(what + " " + v, call.on(x, v), BEYOND);
+            is(what + " " + v + " is counted", x.status(0), findings + 1);
+        }
+    }
+
     void end() {
         System.out.println(name + ": " + answers + " answers, " + wrong + " not as due");
         if (wrong > 0 || answers == 0) {
@@ -36,8 +58,13 @@ final class Due {
     }
 
     static void feedAll(FogSchool x, String text) {
-        for (int i = 0; i < text.length(); i++) {
-            x.feed(text.charAt(i), 1);
+        for (int i = 0; i < text.length(); i += 4) {
+            int n = Math.min(4, text.length() - i);
+            int bytes = 0;
+            for (int b = 0; b < n; b++) {
+                bytes = bytes << 8 | text.charAt(i + b);
+            }
+            x.feed(bytes, n);
         }
     }
 
@@ -59,5 +86,30 @@ final class Due {
         for (int i = 0; i < numbers.length; i++) {
             x.write(s, i, numbers[i]);
         }
+    }
+
+    /** A new object that has read the texts, one after another. */
+    static FogSchool told(String... texts) {
+        FogSchool x = new FogSchool();
+        for (String text : texts) {
+            if (read(x, text) < 0) {
+                throw new IllegalArgumentException(text);
+            }
+        }
+        return x;
+    }
+
+    /** Three keepers and two children in a fog of 3 on each day. */
+    static FogSchool some() {
+        return told("fog 0 3;fog 1 3;fog 2 3;fog 3 3;fog 4 3;fog 5 3",
+            "keeper at 4;drunk at 6;hum at 15;child at 5;child at 9 quick 9");
+    }
+
+    /** As many keepers and children as there may be, in the same fog. */
+    static FogSchool most() {
+        FogSchool x = some();
+        read(x, "elder;poet at 3;echo at 8;head at 12;keeper at 15");
+        read(x, "child;child at 3;child at 12;child at 15");
+        return x;
     }
 }
