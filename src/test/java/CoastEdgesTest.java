@@ -254,6 +254,8 @@ public final class CoastEdgesTest {
         DUE.is("12: given by another still", y.now(4), 2048 + 1 + 32);
         y.change(3, 5, 1);
         DUE.is("12: given by a silent one alone", y.now(4), 1 + 32);
+        DUE.is("12: given by one alone", Due.told("keeper note 11").now(4), 2048);
+        DUE.is("12: given by nobody", Due.told("keeper silent").now(4), 0);
         y.change(0, 4, 99);
         y.change(3, 4, 99);
         DUE.is("12: tired, the silent too", y.now(5), 198);

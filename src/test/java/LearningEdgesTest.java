@@ -87,6 +87,9 @@ public final class LearningEdgesTest {
         DUE.is("15: it has learnt it", Due.told("child knows 2048").learns(0, 11), 0);
         DUE.is("15: it never will", Due.told("child knows 2047").learns(0, 11), Due.NONE);
         DUE.is("15: behind a day", Due.told("fog 0 1;keeper;child").learns(0, 0), 1);
+        FogSchool apart = Due.told("fog 0 1;keeper;child at 6;child at 7");
+        DUE.is("15: within reach", apart.learns(0, 0), 1);
+        DUE.is("15: a cell behind it", apart.learns(1, 0), Due.NONE);
         DUE.is("15: behind 200 days", slowly(1, 11).learns(0, 3), 200);
         DUE.is("15: behind 206 days", slowly(1, 0).learns(0, 3), Due.NONE);
         FogSchool late = new FogSchool();
@@ -180,6 +183,9 @@ public final class LearningEdgesTest {
             x.change(0, 2, note[kind]);
             DUE.is("19: as kind " + kind + " asks", x.quickFor(0, 0, 1), tempo[kind]);
         }
+        FogSchool apart = Due.told("fog 0 1;keeper;child at 6;child at 7");
+        DUE.is("19: within reach", apart.quickFor(0, 0, 1), 3);
+        DUE.is("19: a cell behind it", apart.quickFor(1, 0, 60), Due.NONE);
         FogSchool x = Due.told("child knows 2048");
         DUE.is("19: it has learnt it", x.quickFor(0, 11, 0), 0);
         DUE.is("19: it hasn't", x.quickFor(0, 10, 0), Due.NONE);

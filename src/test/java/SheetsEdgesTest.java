@@ -18,6 +18,7 @@ public final class SheetsEdgesTest {
         load();
         judge();
         image();
+        newOnesBehindAnUndo();
         undo();
         tear();
         count();
@@ -51,17 +52,14 @@ public final class SheetsEdgesTest {
         DUE.range("32: spot", SheetsEdgesTest::heldHums, 0, 9, (x, v) -> x.as(v, 0));
         DUE.range("32: kind", SheetsEdgesTest::heldHums, 0, 6, (x, v) -> x.as(0, v));
         FogSchool x = heldHums();
-        DUE.is("32: a hum is a keeper", x.as(0, 0), 0);
-        DUE.is("32: a hum is a drunk", x.as(0, 2), 0);
-        DUE.is("32: a hum is a poet", x.as(0, 3), 0);
-        DUE.is("32: a hum is a hum", x.as(0, 4), 0);
-        DUE.is("32: a hum is no head", x.as(0, 1), Due.KIND);
-        DUE.is("32: a hum is no echo", x.as(0, 5), Due.KIND);
-        DUE.is("32: a hum is no elder", x.as(0, 6), Due.KIND);
-        x.change(0, 0, 3);
-        DUE.is("32: a poet is no hum", x.as(0, 4), Due.KIND);
-        x.change(0, 0, 0);
-        DUE.is("32: a keeper is no drunk", x.as(0, 2), Due.KIND);
+        // Of which kinds each kind is, as sets: it and those that it is under.
+        int[] kinds = {1, 1 + 2, 1 + 4, 1 + 4 + 8, 1 + 4 + 8 + 16, 1 + 32, 1 + 2 + 64};
+        for (int own = 0; own <= 6; own++) {
+            x.change(0, 0, own);
+            for (int kind = 0; kind <= 6; kind++) {
+                DUE.is("32: kind " + own + " as " + kind, x.as(0, kind), (kinds[own] >> kind) % 2 == 1 ? 0 : Due.KIND);
+            }
+        }
         x.hold(0, -1);
         DUE.is("32: nothing is of no kind", x.as(0, 2), Due.MISSING);
         DUE.is("32: nothing, and no such kind", x.as(0, 7), Due.BEYOND);
@@ -309,8 +307,46 @@ public final class SheetsEdgesTest {
         DUE.is("39: the last keeper", most.of(7, 5), 0);
         DUE.is("39: the last child", most.ofChild(5, 2), 0);
         DUE.is("39: the last spot", most.as(9, 0), 7);
+        most.seed(9);
+        most.fog(5, 9);
+        most.undo();
+        DUE.is("39: z", most.count(6), 1);
+        DUE.is("39: the last place of the list", most.listed(5), 3);
         DUE.is("39: no room for a keeper", most.keeper(0, 0), Due.FULL);
         DUE.is("39: no room for a child", most.child(0, 0), Due.FULL);
+    }
+
+    /** Where an undo took a keeper and a child away, new ones are as at first, whether called or read. */
+    private static void newOnesBehindAnUndo() {
+        int[] keeper = {6, 15, 11, 15, 99, 1};
+        int[] child = {15, 9, 4095, 4095};
+        int[] newKeeper = {0, 0, 0, 6, 0, 0};
+        int[] newChild = {0, 3, 0, 0};
+        for (int way = 0; way <= 1; way++) {
+            FogSchool x = new FogSchool();
+            x.image();
+            x.keeper(6, 15);
+            x.child(15, 9);
+            for (int what = 0; what <= 5; what++) {
+                x.change(0, what, keeper[what]);
+            }
+            for (int what = 0; what <= 3; what++) {
+                x.teach(0, what, child[what]);
+            }
+            x.undo();
+            if (way == 0) {
+                x.keeper(0, 0);
+                x.child(0, 3);
+            } else {
+                Due.read(x, "keeper;child");
+            }
+            for (int what = 0; what <= 5; what++) {
+                DUE.is("39: a new keeper, what " + what, x.of(0, what), newKeeper[what]);
+            }
+            for (int what = 0; what <= 3; what++) {
+                DUE.is("39: a new child, what " + what, x.ofChild(0, what), newChild[what]);
+            }
+        }
     }
 
     private static void undo() {
