@@ -6,7 +6,9 @@ import java.nio.charset.StandardCharsets;
 import java.nio.file.Files;
 import java.nio.file.Path;
 import java.util.Arrays;
+import java.util.Map;
 import java.util.Set;
+import java.util.TreeMap;
 import java.util.TreeSet;
 import java.util.regex.Matcher;
 import java.util.regex.Pattern;
@@ -58,6 +60,7 @@ public final class LanguageTest {
         }
         for (Field f : FogSchool.class.getDeclaredFields()) {
             DUE.holds("1: " + f, Modifier.isPrivate(f.getModifiers()));
+            DUE.holds("5: " + f, isObjects(f) || isConstant(f));
         }
         for (Constructor<?> c : FogSchool.class.getDeclaredConstructors()) {
             DUE.holds("1: " + c, Modifier.isPublic(c.getModifiers()) && c.getParameterCount() == 0);
@@ -74,7 +77,7 @@ public final class LanguageTest {
             int fields = 0;
             for (Field f : c.getDeclaredFields()) {
                 fields += Modifier.isStatic(f.getModifiers()) ? 0 : 1;
-                DUE.holds("5: " + f, !Modifier.isStatic(f.getModifiers()) || Modifier.isFinal(f.getModifiers()));
+                DUE.holds("5: " + f, isObjects(f) || isConstant(f));
             }
             DUE.holds("11: fields of " + c, fields <= 20);
             for (Method m : c.getDeclaredMethods()) {
@@ -82,6 +85,15 @@ public final class LanguageTest {
                 DUE.holds("1: the name of " + m, !faceNames.contains(m.getName()));
             }
         }
+    }
+
+    private static boolean isObjects(Field f) {
+        return !Modifier.isStatic(f.getModifiers());
+    }
+
+    private static boolean isConstant(Field f) {
+        return Modifier.isFinal(f.getModifiers()) && Arrays.<Class<?>>asList(int.class, long.class, boolean.class, char.class,
+            String.class, int[].class, long[].class, char[].class, byte[].class).contains(f.getType());
     }
 
     private static void source() throws Exception {
@@ -105,23 +117,46 @@ public final class LanguageTest {
         while (imports.find()) {
             DUE.holds("4: " + imports.group(1), imports.group(1).equals("java.util.Arrays"));
         }
-        lengths(code);
+        methods(code);
+        for (String name : BODIES.keySet()) {
+            int deep = depth(name, 1);
+            DUE.holds("11: " + name + " goes " + deep + " deep", deep <= 8);
+        }
     }
 
+    /** What stands in the methods of one name, of all classes together. */
+    private static final Map<String, String> BODIES = new TreeMap<>();
+
     /** Every method begins at a line that ends in ") {" behind 4 or 8 blanks and ends at a brace behind as many. */
-    private static void lengths(String code) {
+    private static void methods(String code) {
         String[] lines = code.split("\n");
         int begin = -1;
         String blanks = "";
+        String name = "";
         for (int i = 0; i < lines.length; i++) {
-            Matcher head = Pattern.compile("( {4}| {8})(?!if|for|while|switch|else)\\w.*\\) \\{").matcher(lines[i]);
+            Matcher head = Pattern.compile("( {4}| {8})(?!if|for|while|switch|else)\\w[^(]*?(\\w+)\\(.*\\) \\{").matcher(lines[i]);
             if (begin < 0 && head.matches()) {
                 begin = i;
                 blanks = head.group(1);
+                name = head.group(2);
             } else if (begin >= 0 && lines[i].equals(blanks + "}")) {
                 DUE.holds("11: length of " + lines[begin].trim(), i - begin < 60);
+                BODIES.merge(name, String.join(" ", Arrays.copyOfRange(lines, begin + 1, i)), String::concat);
                 begin = -1;
             }
         }
+        DUE.holds("all methods of the face are found", BODIES.size() > FACE.length && BODIES.containsKey("status"));
+    }
+
+    /** The class has no recursion; where there were one, this would go on until it is deeper than any calls may go. */
+    private static int depth(String name, int level) {
+        int deepest = level;
+        Matcher calls = Pattern.compile("\\b(\\w+)\\(").matcher(BODIES.get(name));
+        while (calls.find() && deepest <= 8) {
+            if (BODIES.containsKey(calls.group(1))) {
+                deepest = Math.max(deepest, depth(calls.group(1), level + 1));
+            }
+        }
+        return deepest;
     }
 }

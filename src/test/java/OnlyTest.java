@@ -27,6 +27,7 @@ public final class OnlyTest {
         sheets();
         judge();
         images();
+        otherObjects();
         DUE.end();
     }
 
@@ -307,5 +308,37 @@ public final class OnlyTest {
         want = see(made());
         want.keySet().removeIf(name -> name.startsWith("kept "));
         check("40: tear", 1, x -> x.tear(), want);
+    }
+
+    /** What is done with one object doesn't show in another one, and a new one is as at first. */
+    private static void otherObjects() {
+        Map<String, Long> want = see(made());
+        check("1: another object", 72, x -> {
+            FogSchool other = Due.inFog(2);
+            other.listed(-1);
+            Due.feedAll(other, "hum");
+            for (int i = 0; i < 8; i++) {
+                other.keeper(i % 2, i);
+                other.hold(i, i);
+            }
+            for (int i = 0; i < 6; i++) {
+                other.child(i, 9);
+            }
+            for (int s = 0; s < 4; s++) {
+                Due.sheetOf(other, s, 32, 3, 3, 3);
+            }
+            other.image();
+            other.autumn(2);
+            other.seed(4);
+            other.undo();
+            return other.go(60);
+        }, want);
+        FogSchool x = new FogSchool();
+        DUE.is("1: no findings", x.status(-1), 0);
+        for (int what = 0; what <= 7; what++) {
+            DUE.is("1: count " + what + " of a new object", x.count(what), what == 6 ? 1 : 0);
+        }
+        DUE.is("1: no sheet", x.judge(0), Due.MISSING);
+        DUE.is("1: no image", x.undo(), Due.NONE);
     }
 }
