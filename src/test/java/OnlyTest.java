@@ -2,7 +2,7 @@ import java.util.Map;
 import java.util.TreeMap;
 
 /**
- * An act changes what its words name and nothing else: it is called on a coast on which everything is other than
+ * An act changes what its words name and nothing else: it is called on a coast on which nearly everything is other than
  * at first and other than in the image that is kept, and all that can be seen is told by name ahead of it and behind it.
  */
 public final class OnlyTest {
